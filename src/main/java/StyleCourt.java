@@ -38,12 +38,11 @@ public final class StyleCourt {
     private static final int KIND_STRING = 3;
 
     private static final int HAS_FIELD = 0;
-    private static final int FIELD_IS = 1;
-    private static final int IS_FIRST = 2;
-    private static final int IS_LAST = 3;
-    private static final int IS_EMPTY = 4;
-    private static final int IS_NTH = 5;
-    private static final int IS_NOT = 6;
+    private static final int IS_FIRST = 1;
+    private static final int IS_LAST = 2;
+    private static final int IS_EMPTY = 3;
+    private static final int IS_NTH = 4;
+    private static final int IS_NOT = 5;
 
     /** The two names that every source knows, each with the byte that it stands for behind it. */
     private static final byte[] KNOWN = {'l', 't', '<', 'a', 'm', 'p', '&'};
@@ -237,7 +236,7 @@ public final class StyleCourt {
             case 2:
                 return latestStyle.selectors.size();
             case 3:
-                return latestStyle.allTold.size();
+                return latestStyle.toldCount;
             case 4:
                 return latestSource.elements.size();
             case 5:
@@ -314,15 +313,16 @@ public final class StyleCourt {
 
     private int putTexts(Element asked) throws IndexOutOfBoundsException {
         ArrayList<Slice> texts = latestSource.texts;
+        int end = Math.min(asked.endText, texts.size());
         int length = 0;
-        for (int i = asked.firstText; i < asked.endText; i++) {
+        for (int i = asked.firstText; i < end; i++) {
             length += texts.get(i).length;
         }
         if (length > MOST_OUT) {
             throw new IndexOutOfBoundsException("the text is too long");
         }
         outLength = 0;
-        for (int i = asked.firstText; i < asked.endText; i++) {
+        for (int i = asked.firstText; i < end; i++) {
             outLength = texts.get(i).copyTo(out, outLength);
         }
         return outLength;
@@ -712,17 +712,16 @@ public final class StyleCourt {
     private static final class Condition {
         int kind = HAS_FIELD;
         Slice name = null;
+        /** What the field must be; null if it need only be there. */
         Slice text = null;
         int number = 0;
 
         void readBracket(Reader reader) throws UnsupportedOperationException {
-            kind = HAS_FIELD;
             reader.nextSign();
             name = reader.readName();
             if (reader.nextSign() == '=') {
                 reader.at++;
                 reader.nextSign();
-                kind = FIELD_IS;
                 text = reader.readString();
             }
             reader.expectSign(']');
@@ -947,24 +946,44 @@ public final class StyleCourt {
         }
     }
 
-    /** Which selectors of the style stand ahead of a body, and which properties are told in it. */
+    /** The selectors ahead of a body, and the properties told in it. */
     private static final class Rule {
-        int firstSelector = 0;
-        int endSelector = 0;
-        int firstTold = 0;
-        int endTold = 0;
+        final ArrayList<Selector> selectors = new ArrayList<>();
+        final ArrayList<Told> allTold = new ArrayList<>();
+
+        /** The greatest weight of the selectors that fit the element; -1 if none does. */
+        int weightFor(Element element, Element[] reach) {
+            int weight = -1;
+            for (int i = 0; i < selectors.size(); i++) {
+                Selector selector = selectors.get(i);
+                if (selector.weight > weight && selector.matches(element, reach)) {
+                    weight = selector.weight;
+                }
+            }
+            return weight;
+        }
+
+        /** All that one rule tells has one weight, so that one of each name can count at most. */
+        Told leading(int which) {
+            Told leading = null;
+            for (int i = 0; i < allTold.size(); i++) {
+                Told told = allTold.get(i);
+                if (told.which == which && (leading == null || told.strong || !leading.strong)) {
+                    leading = told;
+                }
+            }
+            return leading;
+        }
     }
 
     private static final class Style {
-        final ArrayList<Selector> selectors = new ArrayList<>();
         final ArrayList<Rule> rules = new ArrayList<>();
-        final ArrayList<Told> allTold = new ArrayList<>();
+        final ArrayList<Selector> selectors = new ArrayList<>();
         final ArrayList<Slice> names = new ArrayList<>();
+        int toldCount = 0;
 
         void readSelectors(Reader reader, Rule rule) throws UnsupportedOperationException {
-            rule.firstSelector = selectors.size();
-            boolean more = true;
-            for (int k = 0; k <= MOST_SELECTORS && more; k++) {
+            for (int k = 0; k <= MOST_SELECTORS; k++) {
                 reader.nextSign();
                 if (selectors.size() >= MOST_SELECTORS) {
                     reader.failAt(reader.at);
@@ -972,40 +991,39 @@ public final class StyleCourt {
                 Selector selector = new Selector();
                 selector.readSteps(reader);
                 selectors.add(selector);
-                more = reader.nextSign() == ',';
-                if (more) {
-                    reader.at++;
+                rule.selectors.add(selector);
+                if (reader.nextSign() != ',') {
+                    return;
                 }
+                reader.at++;
             }
-            rule.endSelector = selectors.size();
         }
 
         void readBody(Reader reader, Rule rule) throws UnsupportedOperationException {
-            rule.firstTold = allTold.size();
             reader.expectSign('{');
             for (int k = 0; k <= MOST_TOLD && reader.nextSign() != '}'; k++) {
-                readTold(reader);
+                rule.allTold.add(readTold(reader));
             }
             reader.expectSign('}');
-            rule.endTold = allTold.size();
             rules.add(rule);
         }
 
-        private void readTold(Reader reader) throws UnsupportedOperationException {
+        private Told readTold(Reader reader) throws UnsupportedOperationException {
             Slice name = reader.readName();
             int which = numberOfName(name);
             if (which < 0) {
                 which = names.size();
                 names.add(name);
             }
-            if (allTold.size() >= MOST_TOLD || names.size() > MOST_PROPERTIES) {
+            if (toldCount >= MOST_TOLD || names.size() > MOST_PROPERTIES) {
                 reader.failAt(name.from);
             }
             reader.expectSign(':');
-            Told told = new Told(allTold.size(), which);
+            Told told = new Told(toldCount, which);
+            toldCount++;
             told.readValue(reader);
             reader.expectSign(';');
-            allTold.add(told);
+            return told;
         }
 
         /** -1 if no rule tells a property of that name. */
@@ -1023,8 +1041,8 @@ public final class StyleCourt {
             Told best = null;
             int bestWeight = 0;
             for (int i = 0; element.parent != null && i < rules.size(); i++) {
-                Told told = leadingOf(rules.get(i), which);
-                int weight = told == null ? -1 : weightFor(rules.get(i), element, reach);
+                Told told = rules.get(i).leading(which);
+                int weight = told == null ? -1 : rules.get(i).weightFor(element, reach);
                 if (weight >= 0 && (best == null || isAhead(told, weight, best, bestWeight))) {
                     best = told;
                     bestWeight = weight;
@@ -1035,30 +1053,6 @@ public final class StyleCourt {
 
         private static boolean isAhead(Told later, int laterWeight, Told former, int formerWeight) {
             return later.strong == former.strong ? laterWeight >= formerWeight : later.strong;
-        }
-
-        /** All that one rule tells has one weight, so that one of each name can count at most. */
-        private Told leadingOf(Rule rule, int which) {
-            Told leading = null;
-            for (int i = rule.firstTold; i < rule.endTold; i++) {
-                Told told = allTold.get(i);
-                if (told.which == which && (leading == null || told.strong || !leading.strong)) {
-                    leading = told;
-                }
-            }
-            return leading;
-        }
-
-        /** The greatest weight of the rule's selectors that fit the element; -1 if none does. */
-        private int weightFor(Rule rule, Element element, Element[] reach) {
-            int weight = -1;
-            for (int i = rule.firstSelector; i < rule.endSelector; i++) {
-                Selector selector = selectors.get(i);
-                if (selector.weight > weight && selector.matches(element, reach)) {
-                    weight = selector.weight;
-                }
-            }
-            return weight;
         }
     }
 }

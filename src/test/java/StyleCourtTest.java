@@ -160,6 +160,7 @@ public final class StyleCourtTest {
         broken("<a b c>", 5);
         broken("<a b=", 5);
         broken("<a b=c>", 5);
+        broken("<a b=c d=\"e\">", 5);
         broken("<a b=\"c>", 5);
         broken("<a b=\"c\n\">", 5);
         broken("<a b=\"c\u0080\">", 5);
@@ -206,6 +207,8 @@ public final class StyleCourtTest {
         broken("<!-->", 5);
         broken("<!--->", 6);
         broken("<!-- -- >", 9);
+        broken("<!----", 6);
+        broken("<!-- -", 6);
         broken("<!a", 3);
         broken("<!a b>", 4);
         broken("<!a \"b>", 4);
@@ -351,6 +354,9 @@ public final class StyleCourtTest {
         brokenStyle("a[b]:first:last[c] : empty{}", 19);
         brokenStyle("a[b][b][b][b] [b]{}", 14);
         brokenStyle("a>a>a>a>a>a>a>a> a{}", 17);
+        brokenStyle("a>a>a>a>a>a>a>a>{}", 16);
+        brokenStyle("a>a>a>a>a>a>a>a>", 16);
+        brokenStyle("a[b=c d=\"e\"]{}", 4);
     }
 
     private static void styleLimits() {
@@ -359,6 +365,7 @@ public final class StyleCourtTest {
         goodStyle("a,".repeat(119) + "a{}", 120, 0);
         brokenStyle("a{}".repeat(120) + " a{}", 361);
         brokenStyle("a,".repeat(120) + "a{}", 240);
+        brokenStyle("a,".repeat(120) + "{}", 240);
         goodStyle("a{" + "b:1;".repeat(600) + "}", 1, 600);
         goodStyle("a,b{" + "b:1;".repeat(600) + "}", 2, 600);
         goodStyle(("a{" + "b:1;".repeat(300) + "}").repeat(2), 2, 600);
@@ -461,6 +468,15 @@ public final class StyleCourtTest {
         due("ahead of all, the last", "2 2", value(x, 2, "s"));
         style(x, "p { s: 1; s: 2 !; s: 3; }");
         due("within one rule", "2 2", value(x, 2, "s"));
+        style(x, "p { s: 1; s: 2; }");
+        due("within one rule the last", "2 2", value(x, 2, "s"));
+        style(x, "p { s: 1 !; s: 2 !; }");
+        due("within one rule the last", "2 2", value(x, 2, "s"));
+        style(x, "ul { s: 1; } p { t: 2; } doc { s: 3; }");
+        due("of its own rule alone", "0 ", value(x, 2, "s"));
+        due("of its own rule alone", "2 2", value(x, 2, "t"));
+        style(x, "* { s: 1; }");
+        due("weight 0", "2 1", value(x, 2, "s"));
         style(x, "doc > p, p { s: 1; } p { s: 2; }");
         due("the greatest weight of those that fit", "2 1", value(x, 2, "s"));
         style(x, "p, ul > p { s: 1; } p { s: 2; }");
