@@ -861,14 +861,15 @@ public final class StyleCourt {
             if (last < 0 || !steps.get(last).matches(element)) {
                 return false;
             }
-            for (int d = 0; d < reach.length; d++) {
+            int deepest = Math.min(element.depth, reach.length - 1);
+            for (int d = 0; d <= deepest; d++) {
                 reach[d] = d == element.depth ? element : null;
             }
             boolean any = true;
             for (int k = last - 1; k >= 0 && any; k--) {
-                moveBack(reach, steps.get(k + 1).link);
+                moveBack(reach, deepest, steps.get(k + 1).link);
                 any = false;
-                for (int d = 0; d < reach.length; d++) {
+                for (int d = 0; d <= deepest; d++) {
                     if (reach[d] != null && !steps.get(k).matches(reach[d])) {
                         reach[d] = null;
                     }
@@ -878,15 +879,15 @@ public final class StyleCourt {
             return any;
         }
 
-        private static void moveBack(Element[] reach, int link) {
+        private static void moveBack(Element[] reach, int deepest, int link) {
             if (link == '+') {
-                for (int d = 0; d < reach.length; d++) {
+                for (int d = 0; d <= deepest; d++) {
                     reach[d] = reach[d] == null ? null : reach[d].before;
                 }
                 return;
             }
             Element deeper = null;
-            for (int d = reach.length - 1; d >= 0; d--) {
+            for (int d = deepest; d >= 0; d--) {
                 Element outer = deeper == null ? null : deeper.parent;
                 // What the deepest one is in, all others of the row are in too, as far as they are deep.
                 deeper = link == '/' && outer != null ? outer : reach[d];
