@@ -102,7 +102,7 @@ public final class StyleCourtAgainstPlain {
                 x.source();
                 put(x, style);
                 x.style();
-                left = MOST_CALLS - 6 - (source.length() + style.length()) / 20;
+                left = MOST_CALLS - 8 - (source.length() + style.length()) / 20;
             }
             left -= calls;
             return x;
@@ -417,7 +417,7 @@ public final class StyleCourtAgainstPlain {
     }
 
     private static void dueTold(Bench bench, int e, int part, String due) {
-        StyleCourt x = bench.ready(2 + due.length() / 4);
+        StyleCourt x = bench.ready(3 + due.length() / 8);
         due(bench.source + " tell " + e + " " + part, due.length(), x.tell(e, part));
         due(bench.source + " tell " + e + " " + part, due, out(x));
     }
@@ -435,7 +435,7 @@ public final class StyleCourtAgainstPlain {
         for (int i = 0; i < 6; i++) {
             List<Step> selector = selector(8);
             String text = written(selector);
-            StyleCourt x = bench.ready(60 + text.length() / 20);
+            StyleCourt x = bench.ready(5 + page.all.size() + text.length() / 20);
             put(x, text);
             int n = x.select();
             StringBuilder due = new StringBuilder();
